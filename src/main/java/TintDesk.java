@@ -1061,7 +1061,7 @@ public final class TintDesk {
                     return true;
                 }
             }
-            search.choose(added, colorant, 0);
+            // The last choice was 0: the gaps are again what they were.
             return false;
         }
 

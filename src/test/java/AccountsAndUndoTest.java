@@ -1,0 +1,181 @@
+/** Promises 34 to 37. */
+public final class AccountsAndUndoTest {
+    private static final Class<IllegalArgumentException> BAD_ARGUMENT = IllegalArgumentException.class;
+    private static final Class<IllegalStateException> BAD_STATE = IllegalStateException.class;
+    private static final Check CHECK = new Check();
+
+    public static void main(String[] args) {
+        account();
+        undoOfEachChange();
+        undoOfEight();
+        undoAfterExceptions();
+        undoLeavesTheRest();
+        saveAndRestore();
+        restoreForgetsChanges();
+        restoreLeavesTheRest();
+        CHECK.end();
+    }
+
+    private static void account() {
+        TintDesk desk = Desks.readyToMix();
+        desk.addBase(0, 0, 0, 9);
+        desk.setStock(1, 4);
+        Desks.formula(desk, "b1:0=110");
+        desk.mix(0);
+        desk.mix(1);
+        desk.correct(0, 1, 2);
+        desk.correct(1, 1, 3);
+        desk.correct(1, 1, 1);
+        desk.recall(0, 9);
+        desk.setLife(1, 1);
+        desk.refill(1, 5, 6);
+        desk.pass(3);
+        int[] due = {2, 2, 2, 2, 63, 10, 83, 4, 11, 3, 93, 6, 3};
+        for (int what = 0; what <= 12; what++) {
+            CHECK.same("34: account " + what, due[what], desk.account(what));
+        }
+        CHECK.fails("34: what -1", BAD_ARGUMENT, () -> desk.account(-1));
+        CHECK.fails("34: what 13", BAD_ARGUMENT, () -> desk.account(13));
+    }
+
+    private static void undoOfEachChange() {
+        TintDesk desk = Desks.readyToMix();
+        desk.mix(0);
+        Check.Call[] changes = {() -> desk.addColorant(1, 2, 3), () -> desk.setLife(0, 60),
+            () -> desk.refill(0, 5, 5), () -> desk.recall(0, 7), () -> desk.recall(0, 99),
+            () -> desk.pass(99), () -> desk.addBase(1, 2, 3, 4), () -> desk.setStock(0, 8),
+            () -> Desks.formula(desk, "b0:0=1"), () -> desk.setAmount(0, 0, 250),
+            () -> desk.mix(0), () -> desk.correct(0, 0, 5)};
+        String before = Desks.dump(desk);
+        for (int i = 0; i < changes.length; i++) {
+            changes[i].run();
+            CHECK.same("35: change " + i + " is kept", 7, desk.undo());
+            CHECK.same("35: change " + i + " is undone", before, Desks.dump(desk));
+            desk.setStock(0, 8);
+        }
+    }
+
+    private static void undoOfEight() {
+        TintDesk desk = new TintDesk();
+        CHECK.fails("35: nothing is kept", BAD_STATE, desk::undo);
+        for (int i = 0; i < 5; i++) {
+            desk.addColorant(i, 0, 0);
+        }
+        CHECK.same("35: four more", 4, desk.undo());
+        String[] before = new String[12];
+        for (int i = 0; i < 12; i++) {
+            before[i] = Desks.dump(desk);
+            desk.refill(i % 4, i, i + 1);
+        }
+        for (int i = 11; i >= 4; i--) {
+            CHECK.same("35: how many more", i - 4, desk.undo());
+            CHECK.same("35: the desk before " + i, before[i], Desks.dump(desk));
+        }
+        CHECK.fails("35: a ninth", BAD_STATE, desk::undo);
+        CHECK.same("35: it changed nothing", before[4], Desks.dump(desk));
+        desk.setLife(0, 3);
+        desk.setLife(0, 4);
+        CHECK.same("35: new changes", 1, desk.undo());
+        CHECK.same("35: the life between", 3, desk.colorant(0, 9));
+        CHECK.same("35: and before", 0, desk.undo());
+        CHECK.same("35: the life at first", 60, desk.colorant(0, 9));
+    }
+
+    private static void undoAfterExceptions() {
+        TintDesk desk = Desks.withTwoColorants();
+        Desks.formula(desk, "b0:0=900");
+        desk.save();
+        desk.restore();
+        CHECK.fails("35: bad arguments", BAD_ARGUMENT, () -> desk.setStock(0, 100));
+        CHECK.fails("35: refusals", UnsupportedOperationException.class, () -> desk.mix(0));
+        Desks.type(desk, "x");
+        CHECK.fails("35: faults", BAD_ARGUMENT, desk::readFormula);
+        desk.possible(0);
+        desk.save();
+        CHECK.fails("35: are no changes", BAD_STATE, desk::undo);
+    }
+
+    private static void undoLeavesTheRest() {
+        TintDesk desk = Desks.withTwoColorants();
+        desk.setStock(0, 0);
+        Desks.formula(desk, "b0:0=100");
+        CHECK.fails("35: refused", UnsupportedOperationException.class, () -> desk.mix(0));
+        Desks.type(desk, "b0:0=+");
+        CHECK.fails("35: a fault", BAD_ARGUMENT, desk::readFormula);
+        Desks.type(desk, "b0:0");
+        desk.save();
+        desk.undo();
+        CHECK.same("35: the reason stays", 3, desk.refusal());
+        CHECK.same("35: the fault position stays", 5, desk.faultPosition());
+        CHECK.same("35: the formula goes", 0, desk.account(2));
+        Desks.type(desk, "=7");
+        CHECK.same("35: the buffer stays", 0, desk.readFormula());
+        CHECK.same("35: and can be read", 7, desk.amount(0, 0, false));
+        desk.restore();
+        CHECK.same("35: the snapshot stays", 100, desk.amount(0, 0, false));
+    }
+
+    private static void saveAndRestore() {
+        TintDesk desk = Desks.readyToMix();
+        CHECK.fails("37: no snapshot", BAD_STATE, desk::restore);
+        CHECK.same("37: that forgets nothing", 7, desk.undo());
+        Desks.formula(desk, "b0:0=250,1=133");
+        desk.mix(0);
+        desk.pass(5);
+        String saved = Desks.dump(desk);
+        desk.save();
+        for (int round = 0; round < 2; round++) {
+            desk.mix(0);
+            desk.correct(0, 0, 1);
+            desk.addColorant(0, 0, 0);
+            desk.addBase(0, 0, 0, 0);
+            desk.pass(90);
+            desk.restore();
+            CHECK.same("37: as saved", saved, Desks.dump(desk));
+        }
+        desk.setLife(1, 7);
+        String later = Desks.dump(desk);
+        desk.save();
+        desk.recall(0, 7);
+        desk.restore();
+        CHECK.same("36: in place of the earlier one", later, Desks.dump(desk));
+        TintDesk empty = new TintDesk();
+        empty.save();
+        empty.addColorant(1, 1, 1);
+        empty.restore();
+        CHECK.same("36: a new desk", 0, empty.account(0));
+    }
+
+    private static void restoreForgetsChanges() {
+        TintDesk desk = Desks.readyToMix();
+        desk.save();
+        desk.setStock(0, 1);
+        CHECK.same("36: save keeps the changes", 7, desk.undo());
+        desk.restore();
+        CHECK.fails("37: restore forgets them", BAD_STATE, desk::undo);
+        for (int i = 0; i < 9; i++) {
+            desk.setStock(0, i);
+        }
+        for (int i = 7; i >= 0; i--) {
+            CHECK.same("37: changes after it are kept", i, desk.undo());
+            CHECK.same("37: with their desks", i, desk.base(0, 4));
+        }
+    }
+
+    private static void restoreLeavesTheRest() {
+        TintDesk desk = Desks.withTwoColorants();
+        Desks.formula(desk, "b0:1=100");
+        Desks.type(desk, "b0");
+        desk.save();
+        CHECK.fails("37: a fault", BAD_ARGUMENT, desk::readFormula);
+        CHECK.fails("37: refused", UnsupportedOperationException.class, () -> desk.mix(0));
+        Desks.type(desk, "b0:1=2");
+        desk.restore();
+        CHECK.same("37: the fault position stays", 2, desk.faultPosition());
+        CHECK.same("37: the reason stays", 5, desk.refusal());
+        CHECK.same("37: the colorant stays", 1, desk.lacking());
+        desk.append('3');
+        CHECK.same("37: the buffer stays", 1, desk.readFormula());
+        CHECK.same("37: and can be read", 23, desk.amount(1, 1, false));
+    }
+}

@@ -1,0 +1,85 @@
+/** Steps that many tests begin with. */
+final class Desks {
+    private Desks() {
+    }
+
+    static void type(TintDesk desk, String text) {
+        for (int i = 0; i < text.length(); i++) {
+            desk.append(text.charAt(i));
+        }
+    }
+
+    static int formula(TintDesk desk, String text) {
+        type(desk, text);
+        return desk.readFormula();
+    }
+
+    static String label(TintDesk desk, int can) {
+        StringBuilder label = new StringBuilder();
+        for (int i = 0; i < desk.labelLength(can); i++) {
+            label.append(desk.label(can, i));
+        }
+        return label.toString();
+    }
+
+    /** Colorants 0 (1, 0, 0) and 1 (0, 2, 1), and base 0 (10, 20, 30) with limit 8 and the stock 9. */
+    static TintDesk withTwoColorants() {
+        TintDesk desk = new TintDesk();
+        desk.addColorant(1, 0, 0);
+        desk.addColorant(0, 2, 1);
+        desk.addBase(10, 20, 30, 8);
+        desk.setStock(0, 9);
+        return desk;
+    }
+
+    /** As above, with lots in the canisters and formula 0 for 2.5 steps of 0 and 1.33 of 1. */
+    static TintDesk readyToMix() {
+        TintDesk desk = withTwoColorants();
+        desk.refill(0, 7, 3);
+        desk.refill(0, 9, 4);
+        desk.refill(0, 7, 20);
+        desk.refill(1, 1, 50);
+        formula(desk, "b0:0=250,1=133");
+        return desk;
+    }
+
+    /** All numbers that can be asked, as one text: two desks with the same text are in the same state. */
+    static String dump(TintDesk desk) {
+        StringBuilder out = new StringBuilder();
+        for (int what = 0; what <= 12; what++) {
+            out.append(desk.account(what)).append(' ');
+        }
+        for (int c = 0; c < desk.account(0); c++) {
+            out.append("\ncolorant");
+            for (int what = 0; what <= 9; what++) {
+                out.append(' ').append(desk.colorant(c, what));
+            }
+            for (int i = 0; i < desk.colorant(c, 4); i++) {
+                out.append(" lot ").append(desk.lot(c, i, 0)).append(' ').append(desk.lot(c, i, 1));
+                out.append(' ').append(desk.lot(c, i, 2));
+            }
+        }
+        for (int b = 0; b < desk.account(1); b++) {
+            out.append("\nbase");
+            for (int what = 0; what <= 5; what++) {
+                out.append(' ').append(desk.base(b, what));
+            }
+        }
+        for (int f = 0; f < desk.account(2); f++) {
+            out.append("\nformula ").append(desk.baseOf(f)).append(' ').append(desk.possible(f));
+            for (int c = 0; c < desk.account(0); c++) {
+                out.append(' ').append(desk.amount(f, c, false)).append('/').append(desk.amount(f, c, true));
+            }
+        }
+        for (int k = 0; k < desk.account(3); k++) {
+            out.append("\ncan ").append(label(desk, k)).append(' ').append(desk.closest(k));
+            for (int what = 0; what <= 5; what++) {
+                out.append(' ').append(desk.can(k, what));
+            }
+            for (int axis = 0; axis < 3; axis++) {
+                out.append(' ').append(desk.colour(k, axis));
+            }
+        }
+        return out.toString();
+    }
+}
