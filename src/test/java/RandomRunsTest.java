@@ -1,0 +1,255 @@
+import java.util.Random;
+
+/** Runs of 512 calls, drawn with fixed seeds, whose answers TintDesk and ReferenceDesk must give alike. */
+public final class RandomRunsTest {
+    private static final int RUNS = 3000;
+    private static final int CALLS = 512;
+    private static final int[] ODD = {Integer.MIN_VALUE, Integer.MAX_VALUE, -1, -2, 100, 512, 1 << 30, -(1 << 31) + 1};
+    private static final Check CHECK = new Check();
+
+    private final Random random;
+    private final TintDesk desk = new TintDesk();
+    private final ReferenceDesk reference = new ReferenceDesk();
+    private final int oddOneIn;
+    private String waiting = "";
+
+    private RandomRunsTest(int seed) {
+        random = new Random(seed);
+        oddOneIn = seed % 3 == 0 ? 12 : 60;
+    }
+
+    public static void main(String[] args) {
+        for (int seed = 0; seed < RUNS; seed++) {
+            RandomRunsTest run = new RandomRunsTest(seed);
+            for (int call = 0; call < CALLS; call++) {
+                if (!run.callBoth(seed + "/" + call)) {
+                    break;
+                }
+            }
+        }
+        CHECK.end();
+    }
+
+    private interface Answer {
+        Object get();
+    }
+
+    /** The answer, or the very class of what is thrown. */
+    private static String answerOf(Answer call) {
+        try {
+            return String.valueOf(call.get());
+        } catch (RuntimeException thrown) {
+            return thrown.getClass().getName();
+        }
+    }
+
+    private boolean compare(String what, Answer got, Answer due) {
+        String dueText = answerOf(due);
+        String gotText = answerOf(got);
+        CHECK.same(what, dueText, gotText);
+        return dueText.equals(gotText);
+    }
+
+    /** A number below the bound, or just at it, or now and then an odd one. */
+    private int below(int bound) {
+        if (random.nextInt(oddOneIn) == 0) {
+            return random.nextBoolean() ? bound : ODD[random.nextInt(ODD.length)];
+        }
+        return random.nextInt(bound);
+    }
+
+    private int colorant() {
+        return below(Math.max(1, desk.account(0)));
+    }
+
+    private int base() {
+        return below(Math.max(1, desk.account(1)));
+    }
+
+    private int formula() {
+        return below(Math.max(1, desk.account(2)));
+    }
+
+    private int can() {
+        return below(Math.max(1, desk.account(3)));
+    }
+
+    private int lotNumber() {
+        return random.nextInt(4) == 0 ? below(100) : random.nextInt(5) * 24;
+    }
+
+    private int goal(int can, int axis) {
+        int near = can >= 0 && can < desk.account(3) ? desk.colour(can, axis) : 50;
+        return random.nextInt(30) == 0 ? ODD[random.nextInt(ODD.length)] : near + random.nextInt(24) - 4;
+    }
+
+    private String newText() {
+        StringBuilder text = new StringBuilder("b").append(base() & 15).append(':');
+        int parts = 1 + random.nextInt(4);
+        for (int i = 0; i < parts; i++) {
+            int amount = random.nextInt(3) == 0 ? random.nextInt(1200) : random.nextInt(5) * 50;
+            text.append(i == 0 ? "" : ",").append(colorant() & 15).append('=').append(amount);
+        }
+        if (random.nextInt(6) == 0) {
+            text.setCharAt(random.nextInt(text.length()), "b0:=,19x+".charAt(random.nextInt(9)));
+        }
+        return random.nextInt(8) == 0 ? text.substring(0, random.nextInt(text.length())) : text.toString();
+    }
+
+    private boolean callBoth(String place) {
+        if (!waiting.isEmpty() && random.nextInt(20) != 0) {
+            char c = waiting.charAt(0);
+            waiting = waiting.substring(1);
+            return append(place, c) && (!waiting.isEmpty() || read(place));
+        }
+        int kind = random.nextInt(100);
+        if (kind < 40) {
+            return changeSetUp(place, kind);
+        }
+        return kind < 60 ? changeCans(place, kind) : ask(place, random.nextInt(22));
+    }
+
+    private boolean append(String place, char c) {
+        return compare(place + " append " + (int) c, () -> {
+            desk.append(c);
+            return "appended";
+        }, () -> {
+            reference.append(c);
+            return "appended";
+        });
+    }
+
+    private boolean read(String place) {
+        return compare(place + " readFormula", desk::readFormula, reference::readFormula)
+            && compare(place + " faultPosition", desk::faultPosition, reference::faultPosition);
+    }
+
+    private boolean changeSetUp(String place, int kind) {
+        int a = below(10);
+        int b = below(10);
+        int c = below(10);
+        int colorant = colorant();
+        int lot = lotNumber();
+        if (kind < 3) {
+            return compare(place + " addColorant", () -> desk.addColorant(a, b, c), () -> reference.addColorant(a, b, c));
+        }
+        if (kind < 5) {
+            int limit = random.nextBoolean() ? below(201) : below(20);
+            return compare(place + " addBase", () -> desk.addBase(a * 10, b, c, limit), () -> reference.addBase(a * 10, b, c, limit));
+        }
+        if (kind < 7) {
+            int life = below(100);
+            return compare(place + " setLife", () -> desk.setLife(colorant, life), () -> reference.setLife(colorant, life));
+        }
+        if (kind < 20) {
+            int steps = random.nextInt(4) == 0 ? below(501) : 1 + random.nextInt(9);
+            return compare(place + " refill", () -> desk.refill(colorant, lot, steps), () -> reference.refill(colorant, lot, steps));
+        }
+        if (kind < 22) {
+            return compare(place + " recall", () -> desk.recall(colorant, lot), () -> reference.recall(colorant, lot));
+        }
+        if (kind < 24) {
+            int days = random.nextInt(5) == 0 ? below(100) : 1 + random.nextInt(9);
+            return compare(place + " pass", () -> desk.pass(days), () -> reference.pass(days));
+        }
+        if (kind < 30) {
+            int base = base();
+            int stock = below(100);
+            return compare(place + " setStock", () -> desk.setStock(base, stock), () -> reference.setStock(base, stock));
+        }
+        if (kind < 34) {
+            int formula = formula();
+            int amount = random.nextInt(4) == 0 ? below(10000) : random.nextInt(300);
+            return compare(place + " setAmount", () -> desk.setAmount(formula, colorant, amount),
+                () -> reference.setAmount(formula, colorant, amount));
+        }
+        waiting = newText();
+        return true;
+    }
+
+    private boolean changeCans(String place, int kind) {
+        int formula = formula();
+        int can = can();
+        int colorant = colorant();
+        int steps = random.nextInt(3) == 0 ? below(51) : 1 + random.nextInt(4);
+        if (kind < 51) {
+            return compare(place + " mix", () -> desk.mix(formula), () -> reference.mix(formula));
+        }
+        if (kind < 56) {
+            return compare(place + " correct", () -> desk.correct(can, colorant, steps),
+                () -> reference.correct(can, colorant, steps));
+        }
+        if (kind < 58) {
+            return compare(place + " undo", desk::undo, reference::undo);
+        }
+        if (kind < 59) {
+            desk.save();
+            reference.save();
+            return true;
+        }
+        if (random.nextInt(4) != 0) {
+            return true;
+        }
+        return compare(place + " restore", () -> {
+            desk.restore();
+            return "restored";
+        }, () -> {
+            reference.restore();
+            return "restored";
+        });
+    }
+
+    private boolean ask(String place, int kind) {
+        int a = colorant();
+        int f = formula();
+        int k = can();
+        int lot = lotNumber();
+        int what = below(14);
+        boolean isCarry = random.nextBoolean();
+        String name = place + " question " + kind;
+        switch (kind) {
+            case 0: return compare(name, () -> desk.colorant(a, what), () -> reference.colorant(a, what));
+            case 1: return compare(name, () -> desk.lot(a, what - 1, k), () -> reference.lot(a, what - 1, k));
+            case 2: return compare(name, () -> desk.lot(a, 0, what & 3), () -> reference.lot(a, 0, what & 3));
+            case 3: return compare(name, () -> desk.base(f, what), () -> reference.base(f, what));
+            case 4: return compare(name, desk::faultPosition, reference::faultPosition);
+            case 5: return compare(name, () -> desk.amount(f, a, isCarry), () -> reference.amount(f, a, isCarry));
+            case 6: return compare(name, () -> desk.baseOf(f), () -> reference.baseOf(f));
+            case 7: return compare(name, () -> desk.closest(k), () -> reference.closest(k));
+            case 8: return compare(name, () -> desk.possible(f), () -> reference.possible(f));
+            case 9: return compare(name, desk::refusal, reference::refusal);
+            case 10: return compare(name, desk::lacking, reference::lacking);
+            case 11: return compare(name, () -> desk.steps(k, a), () -> reference.steps(k, a));
+            case 12: return compare(name, () -> desk.can(k, what % 7), () -> reference.can(k, what % 7));
+            case 13: return compare(name, () -> desk.colour(k, what % 4), () -> reference.colour(k, what % 4));
+            case 14: return askLeast(name, k);
+            case 15: return compare(name, () -> desk.hasLot(k, a, lot), () -> reference.hasLot(k, a, lot));
+            case 16: return compare(name, () -> desk.canWith(a, lot, what - 1), () -> reference.canWith(a, lot, what - 1));
+            case 17: return compare(name, () -> desk.formulasWith(a, lot), () -> reference.formulasWith(a, lot));
+            case 18: return compare(name, () -> desk.labelLength(k), () -> reference.labelLength(k));
+            case 19: return askLabel(name, k);
+            case 20: return compare(name, () -> desk.meanSteps(f), () -> reference.meanSteps(f));
+            default: return compare(name, () -> desk.account(what - 1), () -> reference.account(what - 1));
+        }
+    }
+
+    private boolean askLeast(String name, int can) {
+        int first = goal(can, 0);
+        int second = goal(can, 1);
+        int third = goal(can, 2);
+        int tolerance = random.nextInt(4) == 0 ? below(100) : random.nextInt(6);
+        int colorant = random.nextInt(4) == 0 ? -1 : colorant();
+        return compare(name, () -> desk.least(can, first, second, third, tolerance, colorant),
+            () -> reference.least(can, first, second, third, tolerance, colorant));
+    }
+
+    private boolean askLabel(String name, int can) {
+        int length = can >= 0 && can < desk.account(3) ? desk.labelLength(can) : 1;
+        boolean isGood = true;
+        for (int i = -1; i <= length; i++) {
+            int index = i;
+            isGood &= compare(name, () -> desk.label(can, index), () -> reference.label(can, index));
+        }
+        return isGood;
+    }
+}
