@@ -1035,8 +1035,9 @@ public final class TintDesk {
                 chosen[i] = 0;
             }
             int most = Math.min(room, MOST_LEAST_STEPS);
-            for (total = 0; total <= most; total++) {
-                if (reaches(this, desk, 0, total)) {
+            for (int steps = 0; steps <= most; steps++) {
+                if (reaches(this, desk, 0, steps)) {
+                    total = steps;
                     return true;
                 }
             }

@@ -6,11 +6,13 @@ public final class AccountsAndUndoTest {
 
     public static void main(String[] args) {
         account();
+        accountOfAFullDesk();
         undoOfEachChange();
         undoOfEight();
         undoAfterExceptions();
         undoLeavesTheRest();
         saveAndRestore();
+        restoreOverOtherThings();
         restoreForgetsChanges();
         restoreLeavesTheRest();
         CHECK.end();
@@ -38,6 +40,34 @@ public final class AccountsAndUndoTest {
         CHECK.fails("34: what 13", BAD_ARGUMENT, () -> desk.account(13));
     }
 
+    private static void accountOfAFullDesk() {
+        TintDesk desk = new TintDesk();
+        for (int i = 0; i < 8; i++) {
+            desk.addColorant(i, i, i);
+            desk.refill(i, i, 100);
+        }
+        for (int i = 0; i < 6; i++) {
+            desk.addBase(i, i, i, 200);
+            desk.setStock(i, 99);
+        }
+        for (int i = 0; i < 10; i++) {
+            Desks.formula(desk, "b5:0=" + (i + 101) + ",7=110");
+        }
+        for (int i = 0; i < 20; i++) {
+            desk.mix(i % 10);
+        }
+        int[] due = {8, 6, 10, 20, 760, 40, 800, 0, 574, 0, 310, 0, 0};
+        for (int what = 0; what <= 12; what++) {
+            CHECK.same("34: account " + what + " of a full desk", due[what], desk.account(what));
+        }
+        CHECK.same("30: all formulas", 1023, desk.formulasWith(7, 7));
+        CHECK.same("29: the last can", 19, desk.canWith(7, 7, 19));
+        CHECK.fails("29: no can more", java.util.NoSuchElementException.class, () -> desk.canWith(7, 7, 20));
+        CHECK.same("33: the last formula", 2.0, desk.meanSteps(9));
+        CHECK.same("18: the first formula", 0, desk.closest(19));
+        CHECK.same("8: all lots go", 760, desk.pass(61));
+    }
+
     private static void undoOfEachChange() {
         TintDesk desk = Desks.readyToMix();
         desk.mix(0);
@@ -46,12 +76,13 @@ public final class AccountsAndUndoTest {
             () -> desk.pass(99), () -> desk.addBase(1, 2, 3, 4), () -> desk.setStock(0, 8),
             () -> Desks.formula(desk, "b0:0=1"), () -> desk.setAmount(0, 0, 250),
             () -> desk.mix(0), () -> desk.correct(0, 0, 5)};
-        String before = Desks.dump(desk);
         for (int i = 0; i < changes.length; i++) {
+            desk.setStock(0, 1);
+            desk.setStock(0, 8);
+            String before = Desks.dump(desk);
             changes[i].run();
             CHECK.same("35: change " + i + " is kept", 7, desk.undo());
-            CHECK.same("35: change " + i + " is undone", before, Desks.dump(desk));
-            desk.setStock(0, 8);
+            CHECK.same("35: change " + i + " is undone, and it alone", before, Desks.dump(desk));
         }
     }
 
@@ -144,6 +175,43 @@ public final class AccountsAndUndoTest {
         empty.addColorant(1, 1, 1);
         empty.restore();
         CHECK.same("36: a new desk", 0, empty.account(0));
+    }
+
+    /** Everything on the desk is another one when it is restored. */
+    private static void restoreOverOtherThings() {
+        TintDesk desk = new TintDesk();
+        desk.addColorant(1, 2, 3);
+        desk.addBase(11, 12, 13, 40);
+        desk.addBase(14, 15, 16, 50);
+        desk.setStock(0, 9);
+        desk.refill(0, 99, 30);
+        Desks.formula(desk, "b0:0=250");
+        desk.mix(0);
+        String saved = Desks.dump(desk);
+        desk.save();
+        for (int i = 6; i >= 0; i--) {
+            CHECK.same("35: back to the new desk", i, desk.undo());
+        }
+        CHECK.same("35: which is empty", Desks.dump(new TintDesk()), Desks.dump(desk));
+        desk.addColorant(9, 8, 7);
+        desk.addColorant(6, 5, 4);
+        desk.setLife(0, 40);
+        desk.addBase(21, 22, 23, 60);
+        desk.addBase(24, 25, 26, 70);
+        desk.setStock(1, 3);
+        desk.pass(3);
+        desk.refill(0, 5, 60);
+        desk.refill(0, 6, 60);
+        desk.refill(1, 0, 60);
+        Desks.formula(desk, "b1:1=777");
+        Desks.formula(desk, "b1:0=777,1=99");
+        desk.mix(1);
+        desk.correct(0, 1, 2);
+        desk.recall(0, 6);
+        desk.restore();
+        CHECK.same("37: all as saved", saved, Desks.dump(desk));
+        CHECK.same("37: lots in cans, too", true, desk.hasLot(0, 0, 99));
+        CHECK.same("37: and no others", false, desk.hasLot(0, 0, 5));
     }
 
     private static void restoreForgetsChanges() {

@@ -141,6 +141,12 @@ public final class CansTest {
         CHECK.same("20: by 20 cans", 20, desk.possible(0));
         desk.mix(0);
         CHECK.same("20: by 19 cans more", 19, desk.possible(0));
+        desk.setStock(0, 1);
+        desk.setAmount(0, 1, 5400);
+        CHECK.same("20: not even one", 0, desk.possible(0));
+        desk.undo();
+        CHECK.same("20: one for the stock", 1, desk.possible(0));
+        desk.undo();
         desk.setStock(0, 0);
         CHECK.same("20: without stock", 0, desk.possible(0));
         CHECK.fails("20: keeps no reason", NO_ELEMENT, desk::refusal);
@@ -461,6 +467,14 @@ public final class CansTest {
         CHECK.same("29: second with 9", 2, desk.canWith(0, 9, 1));
         CHECK.fails("29: index -1", NO_ELEMENT, () -> desk.canWith(0, 7, -1));
         CHECK.fails("29: none with 8", NO_ELEMENT, () -> desk.canWith(0, 8, 0));
+        desk.refill(1, 0, 1);
+        desk.refill(1, 99, 1);
+        desk.recall(1, 1);
+        desk.correct(2, 1, 2);
+        CHECK.same("29: lot 0", 2, desk.canWith(1, 0, 0));
+        CHECK.same("29: lot 99", 2, desk.canWith(1, 99, 0));
+        CHECK.same("30: lot 0", 1, desk.formulasWith(1, 0));
+        CHECK.same("30: lot 99", 1, desk.formulasWith(1, 99));
         CHECK.fails("29: lot -1", BAD_ARGUMENT, () -> desk.canWith(0, -1, 99));
         CHECK.fails("29: lot 100", BAD_ARGUMENT, () -> desk.canWith(0, 100, 99));
         CHECK.fails("29: colorant 2", NO_INDEX, () -> desk.canWith(2, 100, 0));

@@ -218,6 +218,7 @@ public final class ColorantsAndBasesTest {
         CHECK.same("8: what is left", 2, desk.colorant(0, 4));
         CHECK.same("8: first one", 1, desk.lot(0, 0, 0));
         CHECK.same("8: second one", 3, desk.lot(0, 1, 0));
+        CHECK.same("8: with its last day", 5, desk.lot(0, 1, 2));
         CHECK.same("8: later", 5, desk.pass(99));
         CHECK.same("8: wasted in all", 15, desk.account(11));
     }
