@@ -19,7 +19,7 @@ public final class AccountsAndUndoTest {
     }
 
     private static void account() {
-        TintDesk desk = Desks.readyToMix();
+        CountedDesk desk = Desks.readyToMix();
         desk.addBase(0, 0, 0, 9);
         desk.setStock(1, 4);
         Desks.formula(desk, "b1:0=110");
@@ -41,7 +41,7 @@ public final class AccountsAndUndoTest {
     }
 
     private static void accountOfAFullDesk() {
-        TintDesk desk = new TintDesk();
+        CountedDesk desk = new CountedDesk();
         for (int i = 0; i < 8; i++) {
             desk.addColorant(i, i, i);
             desk.refill(i, i, 100);
@@ -69,41 +69,37 @@ public final class AccountsAndUndoTest {
     }
 
     private static void undoOfEachChange() {
-        TintDesk desk = Desks.readyToMix();
-        desk.mix(0);
-        Check.Call[] changes = {() -> desk.addColorant(1, 2, 3), () -> desk.setLife(0, 60),
-            () -> desk.refill(0, 5, 5), () -> desk.recall(0, 7), () -> desk.recall(0, 99),
-            () -> desk.pass(99), () -> desk.addBase(1, 2, 3, 4), () -> desk.setStock(0, 8),
-            () -> Desks.formula(desk, "b0:0=1"), () -> desk.setAmount(0, 0, 250),
-            () -> desk.mix(0), () -> desk.correct(0, 0, 5)};
+        Desks.Change[] changes = {d -> d.addColorant(1, 2, 3), d -> d.setLife(0, 60), d -> d.refill(0, 5, 5),
+            d -> d.recall(0, 7), d -> d.recall(0, 99), d -> d.pass(99), d -> d.addBase(1, 2, 3, 4),
+            d -> d.setStock(0, 8), d -> Desks.formula(d, "b0:0=1"), d -> d.setAmount(0, 0, 250), d -> d.mix(0),
+            d -> d.correct(0, 0, 5)};
         for (int i = 0; i < changes.length; i++) {
-            desk.setStock(0, 1);
-            desk.setStock(0, 8);
+            CountedDesk desk = Desks.readyToMix();
+            desk.mix(0);
             String before = Desks.dump(desk);
-            changes[i].run();
+            changes[i].on(desk);
             CHECK.same("35: change " + i + " is kept", 7, desk.undo());
             CHECK.same("35: change " + i + " is undone, and it alone", before, Desks.dump(desk));
         }
     }
 
     private static void undoOfEight() {
-        TintDesk desk = new TintDesk();
+        CountedDesk desk = new CountedDesk();
         CHECK.fails("35: nothing is kept", BAD_STATE, desk::undo);
         for (int i = 0; i < 5; i++) {
             desk.addColorant(i, 0, 0);
         }
         CHECK.same("35: four more", 4, desk.undo());
-        String[] before = new String[12];
         for (int i = 0; i < 12; i++) {
-            before[i] = Desks.dump(desk);
             desk.refill(i % 4, i, i + 1);
         }
         for (int i = 11; i >= 4; i--) {
             CHECK.same("35: how many more", i - 4, desk.undo());
-            CHECK.same("35: the desk before " + i, before[i], Desks.dump(desk));
+            CHECK.same("35: the steps before " + i, i * (i + 1) / 2, desk.account(4));
+            CHECK.same("35: the lots of the colorant before " + i, i / 4, desk.colorant(i % 4, 4));
         }
         CHECK.fails("35: a ninth", BAD_STATE, desk::undo);
-        CHECK.same("35: it changed nothing", before[4], Desks.dump(desk));
+        CHECK.same("35: it changed nothing", 10, desk.account(4));
         desk.setLife(0, 3);
         desk.setLife(0, 4);
         CHECK.same("35: new changes", 1, desk.undo());
@@ -113,7 +109,7 @@ public final class AccountsAndUndoTest {
     }
 
     private static void undoAfterExceptions() {
-        TintDesk desk = Desks.withTwoColorants();
+        CountedDesk desk = Desks.withTwoColorants();
         Desks.formula(desk, "b0:0=900");
         desk.save();
         desk.restore();
@@ -127,7 +123,7 @@ public final class AccountsAndUndoTest {
     }
 
     private static void undoLeavesTheRest() {
-        TintDesk desk = Desks.withTwoColorants();
+        CountedDesk desk = Desks.withTwoColorants();
         desk.setStock(0, 0);
         Desks.formula(desk, "b0:0=100");
         CHECK.fails("35: refused", UnsupportedOperationException.class, () -> desk.mix(0));
@@ -147,7 +143,7 @@ public final class AccountsAndUndoTest {
     }
 
     private static void saveAndRestore() {
-        TintDesk desk = Desks.readyToMix();
+        CountedDesk desk = Desks.readyToMix();
         CHECK.fails("37: no snapshot", BAD_STATE, desk::restore);
         CHECK.same("37: that forgets nothing", 7, desk.undo());
         Desks.formula(desk, "b0:0=250,1=133");
@@ -170,7 +166,7 @@ public final class AccountsAndUndoTest {
         desk.recall(0, 7);
         desk.restore();
         CHECK.same("36: in place of the earlier one", later, Desks.dump(desk));
-        TintDesk empty = new TintDesk();
+        CountedDesk empty = new CountedDesk();
         empty.save();
         empty.addColorant(1, 1, 1);
         empty.restore();
@@ -179,7 +175,7 @@ public final class AccountsAndUndoTest {
 
     /** Everything on the desk is another one when it is restored. */
     private static void restoreOverOtherThings() {
-        TintDesk desk = new TintDesk();
+        CountedDesk desk = new CountedDesk();
         desk.addColorant(1, 2, 3);
         desk.addBase(11, 12, 13, 40);
         desk.addBase(14, 15, 16, 50);
@@ -192,7 +188,7 @@ public final class AccountsAndUndoTest {
         for (int i = 6; i >= 0; i--) {
             CHECK.same("35: back to the new desk", i, desk.undo());
         }
-        CHECK.same("35: which is empty", Desks.dump(new TintDesk()), Desks.dump(desk));
+        CHECK.same("35: which is empty", Desks.dump(new CountedDesk()), Desks.dump(desk));
         desk.addColorant(9, 8, 7);
         desk.addColorant(6, 5, 4);
         desk.setLife(0, 40);
@@ -215,7 +211,7 @@ public final class AccountsAndUndoTest {
     }
 
     private static void restoreForgetsChanges() {
-        TintDesk desk = Desks.readyToMix();
+        CountedDesk desk = Desks.readyToMix();
         desk.save();
         desk.setStock(0, 1);
         CHECK.same("36: save keeps the changes", 7, desk.undo());
@@ -231,7 +227,7 @@ public final class AccountsAndUndoTest {
     }
 
     private static void restoreLeavesTheRest() {
-        TintDesk desk = Desks.withTwoColorants();
+        CountedDesk desk = Desks.withTwoColorants();
         Desks.formula(desk, "b0:1=100");
         Desks.type(desk, "b0");
         desk.save();

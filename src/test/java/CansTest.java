@@ -36,7 +36,7 @@ public final class CansTest {
     }
 
     private static void mix() {
-        TintDesk desk = Desks.readyToMix();
+        CountedDesk desk = Desks.readyToMix();
         CHECK.fails("19: formula 1", NO_INDEX, () -> desk.mix(1));
         CHECK.fails("19: formula -1", NO_INDEX, () -> desk.mix(-1));
         CHECK.fails("19: no reason is kept", NO_ELEMENT, desk::refusal);
@@ -56,7 +56,7 @@ public final class CansTest {
     }
 
     private static void mixRefused() {
-        TintDesk desk = new TintDesk();
+        CountedDesk desk = new CountedDesk();
         desk.addColorant(1, 1, 1);
         desk.addColorant(1, 1, 1);
         desk.addBase(0, 0, 0, 3);
@@ -88,7 +88,7 @@ public final class CansTest {
     }
 
     private static void mixTwentyCans() {
-        TintDesk desk = Desks.withTwoColorants();
+        CountedDesk desk = Desks.withTwoColorants();
         desk.setStock(0, 99);
         Desks.formula(desk, "b0:0=0");
         for (int i = 0; i < 20; i++) {
@@ -106,7 +106,7 @@ public final class CansTest {
     }
 
     private static void mixAtTheEdges() {
-        TintDesk desk = new TintDesk();
+        CountedDesk desk = new CountedDesk();
         for (int i = 0; i < 8; i++) {
             desk.addColorant(9, 9, 9);
             desk.refill(i, i, 25);
@@ -130,7 +130,7 @@ public final class CansTest {
     }
 
     private static void possible() {
-        TintDesk desk = Desks.readyToMix();
+        CountedDesk desk = Desks.readyToMix();
         CHECK.fails("20: formula 1", NO_INDEX, () -> desk.possible(1));
         CHECK.fails("20: formula -1", NO_INDEX, () -> desk.possible(-1));
         String before = Desks.dump(desk);
@@ -157,7 +157,7 @@ public final class CansTest {
     }
 
     private static void possibleWithCarries() {
-        TintDesk desk = Desks.withTwoColorants();
+        CountedDesk desk = Desks.withTwoColorants();
         desk.refill(0, 0, 100);
         desk.refill(1, 0, 100);
         desk.addBase(0, 0, 0, 3);
@@ -179,7 +179,7 @@ public final class CansTest {
     }
 
     private static void refusal() {
-        TintDesk desk = Desks.withTwoColorants();
+        CountedDesk desk = Desks.withTwoColorants();
         CHECK.fails("21: none was refused", NO_ELEMENT, desk::refusal);
         Desks.formula(desk, "b0:0=900");
         CHECK.fails("21: mix", REFUSED, () -> desk.mix(0));
@@ -201,7 +201,7 @@ public final class CansTest {
     }
 
     private static void lacking() {
-        TintDesk desk = Desks.withTwoColorants();
+        CountedDesk desk = Desks.withTwoColorants();
         CHECK.fails("22: nothing", NO_ELEMENT, desk::lacking);
         desk.save();
         Desks.formula(desk, "b0:1=100");
@@ -223,7 +223,7 @@ public final class CansTest {
     }
 
     private static void steps() {
-        TintDesk desk = Desks.readyToMix();
+        CountedDesk desk = Desks.readyToMix();
         CHECK.fails("23: no can", NO_INDEX, () -> desk.steps(0, 0));
         desk.mix(0);
         desk.correct(0, 1, 2);
@@ -238,7 +238,7 @@ public final class CansTest {
     }
 
     private static void can() {
-        TintDesk desk = Desks.readyToMix();
+        CountedDesk desk = Desks.readyToMix();
         desk.addBase(0, 0, 0, 50);
         desk.setStock(1, 1);
         Desks.formula(desk, "b1:1=500");
@@ -259,7 +259,7 @@ public final class CansTest {
     }
 
     private static void colour() {
-        TintDesk desk = Desks.readyToMix();
+        CountedDesk desk = Desks.readyToMix();
         CHECK.fails("25: no can", NO_INDEX, () -> desk.colour(0, 3));
         desk.mix(0);
         desk.correct(0, 1, 4);
@@ -272,7 +272,7 @@ public final class CansTest {
     }
 
     private static void correct() {
-        TintDesk desk = Desks.readyToMix();
+        CountedDesk desk = Desks.readyToMix();
         CHECK.fails("26: no can", NO_INDEX, () -> desk.correct(0, 0, 0));
         desk.mix(0);
         CHECK.fails("26: can -1", NO_INDEX, () -> desk.correct(-1, 0, 1));
@@ -294,7 +294,7 @@ public final class CansTest {
     }
 
     private static void correctRefused() {
-        TintDesk desk = Desks.readyToMix();
+        CountedDesk desk = Desks.readyToMix();
         desk.mix(0);
         desk.recall(0, 9);
         desk.recall(0, 7);
@@ -309,7 +309,7 @@ public final class CansTest {
         CHECK.same("26: not corrected", 0, desk.can(0, 3));
         CHECK.same("26: not pumped", 4, desk.colorant(0, 3));
         CHECK.same("26: all that is there", 7, desk.correct(0, 0, 4));
-        TintDesk other = Desks.readyToMix();
+        CountedDesk other = Desks.readyToMix();
         other.addBase(0, 0, 0, 200);
         other.setStock(1, 1);
         Desks.formula(other, "b1:0=0");
@@ -320,7 +320,7 @@ public final class CansTest {
     }
 
     private static void least() {
-        TintDesk desk = Desks.readyToMix();
+        CountedDesk desk = Desks.readyToMix();
         CHECK.fails("27: no can", NO_INDEX, () -> desk.least(0, 0, 0, 0, -1, -1));
         desk.mix(0);
         CHECK.fails("27: colorant 2", NO_INDEX, () -> desk.least(0, 0, 0, 0, 100, 2));
@@ -346,7 +346,7 @@ public final class CansTest {
     }
 
     private static void leastOfSeveral() {
-        TintDesk desk = new TintDesk();
+        CountedDesk desk = new CountedDesk();
         desk.addColorant(1, 0, 0);
         desk.addColorant(0, 1, 0);
         desk.addColorant(1, 1, 0);
@@ -380,7 +380,7 @@ public final class CansTest {
     }
 
     private static void leastWithinBounds() {
-        TintDesk desk = Desks.withTwoColorants();
+        CountedDesk desk = Desks.withTwoColorants();
         desk.addBase(0, 0, 0, 200);
         desk.setStock(1, 9);
         desk.refill(0, 0, 20);
@@ -401,7 +401,7 @@ public final class CansTest {
     }
 
     private static void leastWithFarColours() {
-        TintDesk desk = Desks.readyToMix();
+        CountedDesk desk = Desks.readyToMix();
         desk.mix(0);
         int[] far = {Integer.MIN_VALUE, Integer.MIN_VALUE + 1, -2147483600, Integer.MAX_VALUE, 2147483600};
         for (int value : far) {
@@ -412,7 +412,7 @@ public final class CansTest {
     }
 
     private static void hasLot() {
-        TintDesk desk = Desks.readyToMix();
+        CountedDesk desk = Desks.readyToMix();
         CHECK.fails("28: no can", NO_INDEX, () -> desk.hasLot(0, 0, 0));
         desk.mix(0);
         desk.mix(0);
@@ -435,7 +435,7 @@ public final class CansTest {
     }
 
     private static void hasEachLot() {
-        TintDesk desk = new TintDesk();
+        CountedDesk desk = new CountedDesk();
         desk.addColorant(0, 0, 0);
         desk.addColorant(0, 0, 0);
         desk.addBase(0, 0, 0, 200);
@@ -453,7 +453,7 @@ public final class CansTest {
     }
 
     private static void canWith() {
-        TintDesk desk = Desks.readyToMix();
+        CountedDesk desk = Desks.readyToMix();
         CHECK.fails("29: no can yet", NO_ELEMENT, () -> desk.canWith(0, 7, 0));
         desk.mix(0);
         desk.mix(0);
@@ -482,7 +482,7 @@ public final class CansTest {
     }
 
     private static void formulasWith() {
-        TintDesk desk = Desks.readyToMix();
+        CountedDesk desk = Desks.readyToMix();
         CHECK.same("30: none", 0, desk.formulasWith(0, 7));
         for (int i = 1; i < 10; i++) {
             Desks.formula(desk, "b0:1=100");
@@ -503,7 +503,7 @@ public final class CansTest {
     }
 
     private static void label() {
-        TintDesk desk = Desks.readyToMix();
+        CountedDesk desk = Desks.readyToMix();
         desk.addBase(0, 0, 0, 200);
         desk.setStock(1, 9);
         desk.refill(0, 0, 100);
@@ -540,29 +540,46 @@ public final class CansTest {
         CHECK.fails("32: can -1", NO_INDEX, () -> desk.label(-1, 0));
     }
 
+    /** A desk cannot be asked for all signs of it within its 512 calls, so several are. */
     private static void longestLabel() {
-        TintDesk desk = new TintDesk();
+        StringBuilder due = new StringBuilder("b0");
+        for (int colorant = 0; colorant < 2; colorant++) {
+            due.append(',').append(colorant).append("=100");
+            for (int lot = 0; lot < 100; lot++) {
+                due.append(':').append(lot);
+            }
+        }
+        due.append("+200");
+        for (int from = 0; from < due.length(); from += 200) {
+            CountedDesk desk = withTheLongestLabel();
+            CHECK.same("31: the longest label", due.length(), desk.labelLength(0));
+            for (int i = from; i < Math.min(due.length(), from + 200); i++) {
+                CHECK.same("32: the longest label, " + i, due.charAt(i), desk.label(0, i));
+            }
+        }
+    }
+
+    private static CountedDesk withTheLongestLabel() {
+        CountedDesk desk = new CountedDesk();
         desk.addBase(0, 0, 0, 200);
         desk.setStock(0, 1);
         desk.addColorant(0, 0, 0);
         desk.addColorant(0, 0, 0);
         Desks.formula(desk, "b0:0=0");
         desk.mix(0);
-        StringBuilder due = new StringBuilder("b0");
         for (int colorant = 0; colorant < 2; colorant++) {
-            due.append(',').append(colorant).append("=100");
-            for (int lot = 0; lot < 100; lot++) {
-                desk.refill(colorant, 99 - lot, 1);
-                desk.correct(0, colorant, 1);
-                due.append(':').append(lot);
+            for (int lot = 99; lot >= 0; lot--) {
+                desk.refill(colorant, lot, 1);
+                if (lot % 10 == 0) {
+                    desk.correct(0, colorant, 10);
+                }
             }
         }
-        due.append("+200");
-        CHECK.same("32: the longest label", due.toString(), Desks.label(desk, 0));
+        return desk;
     }
 
     private static void meanSteps() {
-        TintDesk desk = Desks.readyToMix();
+        CountedDesk desk = Desks.readyToMix();
         CHECK.fails("33: no can", ArithmeticException.class, () -> desk.meanSteps(0));
         CHECK.fails("33: formula 1", NO_INDEX, () -> desk.meanSteps(1));
         CHECK.fails("33: formula -1", NO_INDEX, () -> desk.meanSteps(-1));

@@ -27,7 +27,7 @@ public final class ColorantsAndBasesTest {
     }
 
     private static void newObject() {
-        TintDesk desk = new TintDesk();
+        CountedDesk desk = new CountedDesk();
         for (int what = 0; what <= 12; what++) {
             CHECK.same("1: account of a new desk " + what, 0, desk.account(what));
         }
@@ -43,7 +43,7 @@ public final class ColorantsAndBasesTest {
     }
 
     private static void addColorant() {
-        TintDesk desk = new TintDesk();
+        CountedDesk desk = new CountedDesk();
         int[][] bad = {{-1, 0, 0}, {10, 0, 0}, {0, -1, 0}, {0, 10, 0}, {0, 0, -1}, {0, 0, 10},
             {Integer.MAX_VALUE, 0, 0}, {0, Integer.MIN_VALUE, 0}};
         for (int[] v : bad) {
@@ -62,7 +62,7 @@ public final class ColorantsAndBasesTest {
     }
 
     private static void setLife() {
-        TintDesk desk = new TintDesk();
+        CountedDesk desk = new CountedDesk();
         CHECK.fails("3: no colorant", NO_INDEX, () -> desk.setLife(0, 5));
         desk.addColorant(0, 0, 0);
         CHECK.fails("3: colorant -1", NO_INDEX, () -> desk.setLife(-1, 0));
@@ -81,7 +81,7 @@ public final class ColorantsAndBasesTest {
     }
 
     private static void refill() {
-        TintDesk desk = new TintDesk();
+        CountedDesk desk = new CountedDesk();
         CHECK.fails("4: no colorant", NO_INDEX, () -> desk.refill(0, -1, 0));
         desk.addColorant(0, 0, 0);
         desk.addColorant(0, 0, 0);
@@ -100,7 +100,7 @@ public final class ColorantsAndBasesTest {
     }
 
     private static void refillWhenFull() {
-        TintDesk desk = new TintDesk();
+        CountedDesk desk = new CountedDesk();
         desk.addColorant(0, 0, 0);
         for (int i = 0; i < 12; i++) {
             CHECK.same("4: lot " + i, i + 1, desk.refill(0, 5, 1));
@@ -118,7 +118,7 @@ public final class ColorantsAndBasesTest {
     }
 
     private static void recall() {
-        TintDesk desk = new TintDesk();
+        CountedDesk desk = new CountedDesk();
         CHECK.fails("5: no colorant", NO_INDEX, () -> desk.recall(0, -1));
         desk.addColorant(0, 0, 0);
         CHECK.fails("5: lot -1", BAD_ARGUMENT, () -> desk.recall(0, -1));
@@ -140,7 +140,7 @@ public final class ColorantsAndBasesTest {
     }
 
     private static void colorant() {
-        TintDesk desk = Desks.readyToMix();
+        CountedDesk desk = Desks.readyToMix();
         desk.refill(1, 2, 5);
         desk.setLife(1, 40);
         desk.mix(0);
@@ -159,7 +159,7 @@ public final class ColorantsAndBasesTest {
     }
 
     private static void lot() {
-        TintDesk desk = new TintDesk();
+        CountedDesk desk = new CountedDesk();
         CHECK.fails("7: no colorant", NO_INDEX, () -> desk.lot(0, 0, 0));
         desk.addColorant(0, 0, 0);
         CHECK.fails("7: no lot", NO_ELEMENT, () -> desk.lot(0, 0, 3));
@@ -179,7 +179,7 @@ public final class ColorantsAndBasesTest {
     }
 
     private static void pass() {
-        TintDesk desk = new TintDesk();
+        CountedDesk desk = new CountedDesk();
         int[] bad = {0, -1, 100, Integer.MAX_VALUE, Integer.MIN_VALUE};
         for (int days : bad) {
             CHECK.fails("8: days " + days, BAD_ARGUMENT, () -> desk.pass(days));
@@ -203,7 +203,7 @@ public final class ColorantsAndBasesTest {
     }
 
     private static void passKeepsEachLotByItsOwnLife() {
-        TintDesk desk = new TintDesk();
+        CountedDesk desk = new CountedDesk();
         desk.addColorant(0, 0, 0);
         desk.addColorant(0, 0, 0);
         desk.setLife(0, 9);
@@ -224,7 +224,7 @@ public final class ColorantsAndBasesTest {
     }
 
     private static void addBase() {
-        TintDesk desk = new TintDesk();
+        CountedDesk desk = new CountedDesk();
         int[][] bad = {{-1, 0, 0, 0}, {100, 0, 0, 0}, {0, -1, 0, 0}, {0, 100, 0, 0}, {0, 0, -1, 0},
             {0, 0, 100, 0}, {0, 0, 0, -1}, {0, 0, 0, 201}};
         for (int[] v : bad) {
@@ -239,7 +239,7 @@ public final class ColorantsAndBasesTest {
     }
 
     private static void setStock() {
-        TintDesk desk = new TintDesk();
+        CountedDesk desk = new CountedDesk();
         CHECK.fails("10: no base", NO_INDEX, () -> desk.setStock(0, -1));
         desk.addBase(0, 0, 0, 0);
         CHECK.fails("10: base -1", NO_INDEX, () -> desk.setStock(-1, 0));
@@ -253,7 +253,7 @@ public final class ColorantsAndBasesTest {
     }
 
     private static void base() {
-        TintDesk desk = Desks.readyToMix();
+        CountedDesk desk = Desks.readyToMix();
         desk.addBase(1, 2, 3, 4);
         desk.mix(0);
         desk.mix(0);

@@ -1,30 +1,35 @@
 /** Steps that many tests begin with. */
 final class Desks {
+    interface Change {
+        void on(CountedDesk desk);
+    }
+
     private Desks() {
     }
 
-    static void type(TintDesk desk, String text) {
+    static void type(CountedDesk desk, String text) {
         for (int i = 0; i < text.length(); i++) {
             desk.append(text.charAt(i));
         }
     }
 
-    static int formula(TintDesk desk, String text) {
+    static int formula(CountedDesk desk, String text) {
         type(desk, text);
         return desk.readFormula();
     }
 
-    static String label(TintDesk desk, int can) {
+    static String label(CountedDesk desk, int can) {
         StringBuilder label = new StringBuilder();
-        for (int i = 0; i < desk.labelLength(can); i++) {
+        int length = desk.labelLength(can);
+        for (int i = 0; i < length; i++) {
             label.append(desk.label(can, i));
         }
         return label.toString();
     }
 
     /** Colorants 0 (1, 0, 0) and 1 (0, 2, 1), and base 0 (10, 20, 30) with limit 8 and the stock 9. */
-    static TintDesk withTwoColorants() {
-        TintDesk desk = new TintDesk();
+    static CountedDesk withTwoColorants() {
+        CountedDesk desk = new CountedDesk();
         desk.addColorant(1, 0, 0);
         desk.addColorant(0, 2, 1);
         desk.addBase(10, 20, 30, 8);
@@ -33,8 +38,8 @@ final class Desks {
     }
 
     /** As above, with lots in the canisters and formula 0 for 2.5 steps of 0 and 1.33 of 1. */
-    static TintDesk readyToMix() {
-        TintDesk desk = withTwoColorants();
+    static CountedDesk readyToMix() {
+        CountedDesk desk = withTwoColorants();
         desk.refill(0, 7, 3);
         desk.refill(0, 9, 4);
         desk.refill(0, 7, 20);
@@ -44,34 +49,39 @@ final class Desks {
     }
 
     /** All numbers that can be asked, as one text: two desks with the same text are in the same state. */
-    static String dump(TintDesk desk) {
+    static String dump(CountedDesk desk) {
         StringBuilder out = new StringBuilder();
         for (int what = 0; what <= 12; what++) {
             out.append(desk.account(what)).append(' ');
         }
-        for (int c = 0; c < desk.account(0); c++) {
+        int colorants = desk.account(0);
+        for (int c = 0; c < colorants; c++) {
             out.append("\ncolorant");
             for (int what = 0; what <= 9; what++) {
                 out.append(' ').append(desk.colorant(c, what));
             }
-            for (int i = 0; i < desk.colorant(c, 4); i++) {
+            int lots = desk.colorant(c, 4);
+            for (int i = 0; i < lots; i++) {
                 out.append(" lot ").append(desk.lot(c, i, 0)).append(' ').append(desk.lot(c, i, 1));
                 out.append(' ').append(desk.lot(c, i, 2));
             }
         }
-        for (int b = 0; b < desk.account(1); b++) {
+        int bases = desk.account(1);
+        for (int b = 0; b < bases; b++) {
             out.append("\nbase");
             for (int what = 0; what <= 5; what++) {
                 out.append(' ').append(desk.base(b, what));
             }
         }
-        for (int f = 0; f < desk.account(2); f++) {
+        int formulas = desk.account(2);
+        for (int f = 0; f < formulas; f++) {
             out.append("\nformula ").append(desk.baseOf(f)).append(' ').append(desk.possible(f));
-            for (int c = 0; c < desk.account(0); c++) {
+            for (int c = 0; c < colorants; c++) {
                 out.append(' ').append(desk.amount(f, c, false)).append('/').append(desk.amount(f, c, true));
             }
         }
-        for (int k = 0; k < desk.account(3); k++) {
+        int cans = desk.account(3);
+        for (int k = 0; k < cans; k++) {
             out.append("\ncan ").append(label(desk, k)).append(' ').append(desk.closest(k));
             for (int what = 0; what <= 5; what++) {
                 out.append(' ').append(desk.can(k, what));

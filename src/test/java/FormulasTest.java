@@ -22,7 +22,7 @@ public final class FormulasTest {
     }
 
     private static void append() {
-        TintDesk desk = Desks.withTwoColorants();
+        CountedDesk desk = Desks.withTwoColorants();
         desk.append((char) 0);
         desk.append((char) 65535);
         Desks.type(desk, "x".repeat(58));
@@ -36,7 +36,7 @@ public final class FormulasTest {
     }
 
     private static void readFormula() {
-        TintDesk desk = Desks.withTwoColorants();
+        CountedDesk desk = Desks.withTwoColorants();
         CHECK.same("13: first", 0, Desks.formula(desk, "b0:1=9999"));
         CHECK.same("13: amount", 9999, desk.amount(0, 1, false));
         CHECK.same("13: not named", 0, desk.amount(0, 0, false));
@@ -57,7 +57,7 @@ public final class FormulasTest {
     }
 
     private static void readFormulaRefused() {
-        TintDesk desk = Desks.withTwoColorants();
+        CountedDesk desk = Desks.withTwoColorants();
         String[] missing = {"b1:0=1", "b9:0=1", "b0:2=1", "b0:9=0", "b0:2=1,0=1", "b0:0=1,5=0"};
         for (String text : missing) {
             Desks.type(desk, text);
@@ -90,7 +90,7 @@ public final class FormulasTest {
             0, 0, 0, 1, 1, 2, 2, 3, 3, 3, 4, 4,
             5, 5, 5, 6, 6, 9, 6, 6,
             7, 7, 10, 16, 6, 5};
-        TintDesk desk = Desks.withTwoColorants();
+        CountedDesk desk = Desks.withTwoColorants();
         for (int i = 0; i < texts.length; i++) {
             Desks.type(desk, texts[i]);
             CHECK.fails("14: " + texts[i], BAD_ARGUMENT, desk::readFormula);
@@ -113,8 +113,8 @@ public final class FormulasTest {
         String[] takenInstead = {"b", "0123456789", ":", "0123456789", "=", "123456789", "0123456789,",
             ",0123456789", "0123456789", "=", "0123456789"};
         for (int at = 0; at < good.length(); at++) {
-            TintDesk desk = Desks.withTwoColorants();
             for (int sign = 0; sign < 256; sign++) {
+                CountedDesk desk = Desks.withTwoColorants();
                 Desks.type(desk, good.substring(0, at));
                 desk.append((char) sign);
                 boolean isTaken = takenInstead[at].indexOf(sign) >= 0 || (at == 5 && sign == '0');
@@ -127,7 +127,7 @@ public final class FormulasTest {
         }
     }
 
-    private static void readOrFail(TintDesk desk) {
+    private static void readOrFail(CountedDesk desk) {
         try {
             desk.readFormula();
         } catch (IllegalArgumentException | UnsupportedOperationException thrown) {
@@ -136,7 +136,7 @@ public final class FormulasTest {
     }
 
     private static void setAmount() {
-        TintDesk desk = Desks.readyToMix();
+        CountedDesk desk = Desks.readyToMix();
         desk.mix(0);
         CHECK.same("15: a carry is there", 50, desk.amount(0, 0, true));
         CHECK.fails("15: formula 1", NO_INDEX, () -> desk.setAmount(1, 0, -1));
@@ -155,7 +155,7 @@ public final class FormulasTest {
     }
 
     private static void amount() {
-        TintDesk desk = Desks.readyToMix();
+        CountedDesk desk = Desks.readyToMix();
         CHECK.same("16: amount", 133, desk.amount(0, 1, false));
         CHECK.same("16: carry at first", 0, desk.amount(0, 1, true));
         desk.mix(0);
@@ -170,7 +170,7 @@ public final class FormulasTest {
     }
 
     private static void baseOf() {
-        TintDesk desk = Desks.withTwoColorants();
+        CountedDesk desk = Desks.withTwoColorants();
         desk.addBase(0, 0, 0, 0);
         Desks.formula(desk, "b1:0=1");
         Desks.formula(desk, "b0:0=1");
@@ -181,7 +181,7 @@ public final class FormulasTest {
     }
 
     private static void closest() {
-        TintDesk desk = Desks.readyToMix();
+        CountedDesk desk = Desks.readyToMix();
         desk.addBase(0, 0, 0, 9);
         Desks.formula(desk, "b1:0=200,1=100");
         Desks.formula(desk, "b0:0=250,1=67");
