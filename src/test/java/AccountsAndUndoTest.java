@@ -175,35 +175,15 @@ public final class AccountsAndUndoTest {
 
     /** Everything on the desk is another one when it is restored. */
     private static void restoreOverOtherThings() {
-        CountedDesk desk = new CountedDesk();
-        desk.addColorant(1, 2, 3);
-        desk.addBase(11, 12, 13, 40);
+        CountedDesk desk = Desks.withOneOfEach();
         desk.addBase(14, 15, 16, 50);
-        desk.setStock(0, 9);
-        desk.refill(0, 99, 30);
-        Desks.formula(desk, "b0:0=250");
-        desk.mix(0);
         String saved = Desks.dump(desk);
         desk.save();
         for (int i = 6; i >= 0; i--) {
             CHECK.same("35: back to the new desk", i, desk.undo());
         }
         CHECK.same("35: which is empty", Desks.dump(new CountedDesk()), Desks.dump(desk));
-        desk.addColorant(9, 8, 7);
-        desk.addColorant(6, 5, 4);
-        desk.setLife(0, 40);
-        desk.addBase(21, 22, 23, 60);
-        desk.addBase(24, 25, 26, 70);
-        desk.setStock(1, 3);
-        desk.pass(3);
-        desk.refill(0, 5, 60);
-        desk.refill(0, 6, 60);
-        desk.refill(1, 0, 60);
-        Desks.formula(desk, "b1:1=777");
-        Desks.formula(desk, "b1:0=777,1=99");
-        desk.mix(1);
-        desk.correct(0, 1, 2);
-        desk.recall(0, 6);
+        Desks.makeOtherThings(desk);
         desk.restore();
         CHECK.same("37: all as saved", saved, Desks.dump(desk));
         CHECK.same("37: lots in cans, too", true, desk.hasLot(0, 0, 99));

@@ -6,6 +6,16 @@ final class Check {
 
     private int wrong = 0;
     private int asked = 0;
+    private String about = "";
+
+    /** What the next reports begin with. */
+    void about(String words) {
+        about = words;
+    }
+
+    int asked() {
+        return asked;
+    }
 
     void same(String what, long due, long got) {
         asked++;
@@ -48,7 +58,7 @@ final class Check {
 
     void report(String fault) {
         wrong++;
-        System.out.println(fault);
+        System.out.println(about + fault);
     }
 
     void end() {

@@ -48,6 +48,80 @@ final class Desks {
         return desk;
     }
 
+    /** So many colorants without colour, each with 100 steps in a lot of its own number, and base 0 with stock 99. */
+    static CountedDesk stocked(int colorants, int limit) {
+        CountedDesk desk = new CountedDesk();
+        for (int i = 0; i < colorants; i++) {
+            desk.addColorant(0, 0, 0);
+            desk.refill(i, i, 100);
+        }
+        desk.addBase(0, 0, 0, limit);
+        desk.setStock(0, 99);
+        return desk;
+    }
+
+    /** As above, with can 0 of formula 0, which has no steps. */
+    static CountedDesk withAnEmptyCan(int colorants, int limit) {
+        CountedDesk desk = stocked(colorants, limit);
+        formula(desk, "b0:0=0");
+        desk.mix(0);
+        return desk;
+    }
+
+    /** So many of each; each canister has 100 steps in lot 5, and a can of formula 0 has a step of each colorant. */
+    static CountedDesk holding(int colorants, int bases, int formulas, int cans) {
+        CountedDesk desk = new CountedDesk();
+        for (int i = 0; i < colorants; i++) {
+            desk.addColorant(1, 2, 3);
+            desk.refill(i, 5, 100);
+        }
+        for (int i = 0; i < bases; i++) {
+            desk.addBase(1, 2, 3, 200);
+            desk.setStock(i, 99);
+        }
+        for (int i = 0; i < formulas; i++) {
+            formula(desk, "b" + i % bases + ":0=100");
+        }
+        for (int i = 1; i < colorants && formulas > 0; i++) {
+            desk.setAmount(0, i, 100);
+        }
+        for (int i = 0; i < cans; i++) {
+            desk.mix(i % formulas);
+        }
+        return desk;
+    }
+
+    /** One colorant, one base, one formula and one can, in six changes. */
+    static CountedDesk withOneOfEach() {
+        CountedDesk desk = new CountedDesk();
+        desk.addColorant(1, 2, 3);
+        desk.addBase(11, 12, 13, 40);
+        desk.setStock(0, 9);
+        desk.refill(0, 99, 30);
+        formula(desk, "b0:0=250");
+        desk.mix(0);
+        return desk;
+    }
+
+    /** Of all things that withOneOfEach makes there are others then; the desk must be a new one. */
+    static void makeOtherThings(CountedDesk desk) {
+        desk.addColorant(9, 8, 7);
+        desk.addColorant(6, 5, 4);
+        desk.setLife(0, 40);
+        desk.addBase(21, 22, 23, 60);
+        desk.addBase(24, 25, 26, 70);
+        desk.setStock(1, 3);
+        desk.pass(3);
+        desk.refill(0, 5, 60);
+        desk.refill(0, 6, 60);
+        desk.refill(1, 0, 60);
+        formula(desk, "b1:1=777");
+        formula(desk, "b1:0=777,1=99");
+        desk.mix(1);
+        desk.correct(0, 1, 2);
+        desk.recall(0, 6);
+    }
+
     /** All numbers that can be asked, as one text: two desks with the same text are in the same state. */
     static String dump(CountedDesk desk) {
         StringBuilder out = new StringBuilder();
