@@ -548,20 +548,14 @@ final class CansBoundaries extends Boundaries {
     }
 
     private void shortestAndLongestLabel() {
-        CountedDesk desk = Desks.withAnEmptyCan(2, 200);
-        same("the shortest", 2, desk.labelLength(0));
-        for (int colorant = 0; colorant < 2; colorant++) {
-            desk.recall(colorant, colorant);
-            for (int lot = 0; lot < 100; lot++) {
-                desk.refill(colorant, lot, 1);
-                if (lot % 10 == 9) {
-                    desk.correct(0, colorant, 10);
-                }
-            }
+        same("the shortest", 2, Desks.withAnEmptyCan(2, 200).labelLength(0));
+        CountedDesk desk = Desks.withTheLongestLabel();
+        same("the longest", 646, desk.labelLength(0));
+        String end = Desks.longestLabel().substring(446);
+        for (int i = 0; i < 200; i++) {
+            same("its end at " + i, end.charAt(i), desk.label(0, 446 + i));
         }
-        same("the longest", 2 + 2 * (6 + 10 * 2 + 90 * 3) + 4, desk.labelLength(0));
-        same("its last character", '0', desk.label(0, 597));
-        fails("behind it", NO_ELEMENT, () -> desk.label(0, 598));
+        fails("behind it", NO_ELEMENT, () -> desk.label(0, 646));
     }
 
     private void lastCharacters() {

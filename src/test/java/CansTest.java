@@ -542,32 +542,23 @@ public final class CansTest {
 
     /** A desk cannot be asked for all signs of it within its 512 calls, so several are. */
     private static void longestLabel() {
-        StringBuilder due = new StringBuilder("b0");
-        for (int colorant = 0; colorant < 2; colorant++) {
-            due.append(',').append(colorant).append("=100");
-            for (int lot = 0; lot < 100; lot++) {
-                due.append(':').append(lot);
-            }
-        }
-        due.append("+200");
+        String due = Desks.longestLabel();
+        CHECK.same("31: its length", 646, due.length());
         for (int from = 0; from < due.length(); from += 200) {
-            CountedDesk desk = withTheLongestLabel();
+            CountedDesk desk = Desks.withTheLongestLabel();
             CHECK.same("31: the longest label", due.length(), desk.labelLength(0));
             for (int i = from; i < Math.min(due.length(), from + 200); i++) {
                 CHECK.same("32: the longest label, " + i, due.charAt(i), desk.label(0, i));
             }
         }
+        eachLotOfTwoColorants();
     }
 
-    private static CountedDesk withTheLongestLabel() {
-        CountedDesk desk = new CountedDesk();
-        desk.addBase(0, 0, 0, 200);
-        desk.setStock(0, 1);
-        desk.addColorant(0, 0, 0);
-        desk.addColorant(0, 0, 0);
-        Desks.formula(desk, "b0:0=0");
-        desk.mix(0);
+    /** All lot numbers there are, each twice: shorter, since ten of them have one digit. */
+    private static void eachLotOfTwoColorants() {
+        CountedDesk desk = Desks.withAnEmptyCan(2, 200);
         for (int colorant = 0; colorant < 2; colorant++) {
+            desk.recall(colorant, colorant);
             for (int lot = 99; lot >= 0; lot--) {
                 desk.refill(colorant, lot, 1);
                 if (lot % 10 == 0) {
@@ -575,7 +566,8 @@ public final class CansTest {
                 }
             }
         }
-        return desk;
+        CHECK.same("31: each lot of two colorants", 598, desk.labelLength(0));
+        CHECK.same("32: its last sign", '0', desk.label(0, 597));
     }
 
     private static void meanSteps() {

@@ -91,6 +91,33 @@ final class Desks {
         return desk;
     }
 
+    /** Nothing is longer than a two-digit lot for each of the 200 steps, shared by all colorants. */
+    static String longestLabel() {
+        StringBuilder label = new StringBuilder("b0");
+        for (int colorant = 0; colorant < 8; colorant++) {
+            label.append(',').append(colorant).append("=25");
+            for (int lot = 75; lot < 100; lot++) {
+                label.append(':').append(lot);
+            }
+        }
+        return label.append("+200").toString();
+    }
+
+    /** Can 0 has the longest label. */
+    static CountedDesk withTheLongestLabel() {
+        CountedDesk desk = withAnEmptyCan(8, 200);
+        for (int colorant = 0; colorant < 8; colorant++) {
+            desk.recall(colorant, colorant);
+            for (int lot = 99; lot >= 75; lot--) {
+                desk.refill(colorant, lot, 1);
+                if (lot % 5 == 0) {
+                    desk.correct(0, colorant, 5);
+                }
+            }
+        }
+        return desk;
+    }
+
     /** One colorant, one base, one formula and one can, in six changes. */
     static CountedDesk withOneOfEach() {
         CountedDesk desk = new CountedDesk();
