@@ -1,26 +1,34 @@
 import java.util.Random;
 
-/** Runs of all the 512 calls of an object, drawn with fixed seeds; TintDesk and ReferenceDesk must answer alike. */
+/**
+ * Runs of all the 512 calls of an object, drawn with fixed seeds; TintDesk and ReferenceDesk must answer alike. Every
+ * second run begins with a stocked desk, so that cans, lots in them, and corrections are common.
+ */
 public final class RandomRunsTest {
     private static final int RUNS = 3000;
     private static final int[] ODD = {Integer.MIN_VALUE, Integer.MAX_VALUE, -1, -2, 100, 512, 1 << 30, -(1 << 31) + 1};
+    private static final int ADD_COLORANT = 2;
+    private static final int REFILL = 19;
     private static final Check CHECK = new Check();
 
     private final Random random;
     private final CountedDesk desk = new CountedDesk();
     private final ReferenceDesk reference = new ReferenceDesk();
     private final int oddOneIn;
+    private final boolean isStocked;
     private String waiting = "";
 
     private RandomRunsTest(int seed) {
         random = new Random(seed);
         oddOneIn = seed % 3 == 0 ? 12 : 60;
+        isStocked = seed % 2 == 1;
     }
 
     public static void main(String[] args) {
         for (int seed = 0; seed < RUNS; seed++) {
             RandomRunsTest run = new RandomRunsTest(seed);
-            int left = run.desk.callsLeft();
+            boolean isGood = !run.isStocked || run.stockUp("run " + seed + ", stocking up:");
+            int left = isGood ? run.desk.callsLeft() : 0;
             while (left > 0) {
                 left = run.callBoth("run " + seed + ", " + left + " calls left:") ? run.desk.callsLeft() : 0;
             }
@@ -76,14 +84,69 @@ public final class RandomRunsTest {
         return random.nextInt(4) == 0 ? below(100) : random.nextInt(5) * 24;
     }
 
+    /** Mostly that of the first lot in the canister: cans are likely to have steps of it. */
+    private int lotInUse(int colorant) {
+        boolean isFilled = colorant >= 0 && colorant < reference.account(0) && reference.colorant(colorant, 4) > 0;
+        return isFilled && random.nextInt(4) != 0 ? reference.lot(colorant, 0, 0) : lotNumber();
+    }
+
+    private boolean stockUp(String place) {
+        int colorants = 2 + random.nextInt(7);
+        boolean isGood = true;
+        for (int i = 0; i < colorants && isGood; i++) {
+            isGood = changeSetUp(place, ADD_COLORANT);
+        }
+        for (int i = 0; i < colorants * 4 && isGood; i++) {
+            isGood = changeSetUp(place, REFILL);
+        }
+        for (int i = 0; i < 3 && isGood; i++) {
+            int base = i;
+            int limit = i == 0 ? 200 : 5 + random.nextInt(40);
+            isGood = compare(place + " addBase", () -> desk.addBase(base, 1, 2, limit),
+                () -> reference.addBase(base, 1, 2, limit))
+                && compare(place + " setStock", () -> desk.setStock(base, 9), () -> reference.setStock(base, 9));
+        }
+        for (int i = 0; i < 4 && isGood; i++) {
+            isGood = typeAndRead(place, newText());
+        }
+        return isGood;
+    }
+
+    private boolean typeAndRead(String place, String text) {
+        boolean isGood = true;
+        for (int i = 0; i < text.length() && isGood; i++) {
+            isGood = append(place, text.charAt(i));
+        }
+        return isGood && read(place);
+    }
+
+    private boolean isThere(int can) {
+        return can >= 0 && can < reference.account(3);
+    }
+
     private int goal(int can, int axis) {
-        int near = can >= 0 && can < reference.account(3) ? reference.colour(can, axis) : 50;
+        int near = isThere(can) ? reference.colour(can, axis) : 50;
         return random.nextInt(30) == 0 ? ODD[random.nextInt(ODD.length)] : near + random.nextInt(24) - 4;
     }
 
+    /** The colour of a can that is there, with up to seven steps more: most such goals can be reached, some just not. */
+    private int[] goalWithMore(int can) {
+        int[] goal = {reference.colour(can, 0), reference.colour(can, 1), reference.colour(can, 2)};
+        int more = random.nextInt(8);
+        for (int i = 0; i < more; i++) {
+            int added = random.nextInt(reference.account(0));
+            for (int axis = 0; axis < 3; axis++) {
+                goal[axis] += reference.colorant(added, axis);
+            }
+        }
+        goal[random.nextInt(3)] += random.nextInt(3) - 1;
+        return goal;
+    }
+
+    /** One text in thirty is too long for the buffer. */
     private String newText() {
         StringBuilder text = new StringBuilder("b").append(base() & 15).append(':');
-        int parts = 1 + random.nextInt(4);
+        int parts = random.nextInt(30) == 0 ? 16 : 1 + random.nextInt(4);
         for (int i = 0; i < parts; i++) {
             int amount = random.nextInt(3) == 0 ? random.nextInt(1200) : random.nextInt(5) * 50;
             text.append(i == 0 ? "" : ",").append(colorant() & 15).append('=').append(amount);
@@ -129,7 +192,7 @@ public final class RandomRunsTest {
         int c = below(10);
         int colorant = colorant();
         int lot = lotNumber();
-        if (kind < 3) {
+        if (kind <= ADD_COLORANT) {
             return compare(place + " addColorant", () -> desk.addColorant(a, b, c), () -> reference.addColorant(a, b, c));
         }
         if (kind < 5) {
@@ -140,7 +203,7 @@ public final class RandomRunsTest {
             int life = below(100);
             return compare(place + " setLife", () -> desk.setLife(colorant, life), () -> reference.setLife(colorant, life));
         }
-        if (kind < 20) {
+        if (kind <= REFILL) {
             int steps = random.nextInt(4) == 0 ? below(501) : 1 + random.nextInt(9);
             return compare(place + " refill", () -> desk.refill(colorant, lot, steps), () -> reference.refill(colorant, lot, steps));
         }
@@ -202,9 +265,10 @@ public final class RandomRunsTest {
         int a = colorant();
         int f = formula();
         int k = can();
-        int lot = lotNumber();
+        int lot = lotInUse(a);
         int what = below(14);
         boolean isCarry = random.nextBoolean();
+        int index = isStocked ? random.nextInt(5) - 1 : what - 1;
         String name = place + " question " + kind;
         switch (kind) {
             case 0: return compare(name, () -> desk.colorant(a, what), () -> reference.colorant(a, what));
@@ -223,7 +287,7 @@ public final class RandomRunsTest {
             case 13: return compare(name, () -> desk.colour(k, what % 4), () -> reference.colour(k, what % 4));
             case 14: return askLeast(name, k);
             case 15: return compare(name, () -> desk.hasLot(k, a, lot), () -> reference.hasLot(k, a, lot));
-            case 16: return compare(name, () -> desk.canWith(a, lot, what - 1), () -> reference.canWith(a, lot, what - 1));
+            case 16: return compare(name, () -> desk.canWith(a, lot, index), () -> reference.canWith(a, lot, index));
             case 17: return compare(name, () -> desk.formulasWith(a, lot), () -> reference.formulasWith(a, lot));
             case 18: return compare(name, () -> desk.labelLength(k), () -> reference.labelLength(k));
             case 19: return askLabel(name, k);
@@ -233,17 +297,16 @@ public final class RandomRunsTest {
     }
 
     private boolean askLeast(String name, int can) {
-        int first = goal(can, 0);
-        int second = goal(can, 1);
-        int third = goal(can, 2);
+        boolean isNear = isStocked && isThere(can) && random.nextInt(4) != 0;
+        int[] goal = isNear ? goalWithMore(can) : new int[] {goal(can, 0), goal(can, 1), goal(can, 2)};
         int tolerance = random.nextInt(4) == 0 ? below(100) : random.nextInt(6);
         int colorant = random.nextInt(4) == 0 ? -1 : colorant();
-        return compare(name, () -> desk.least(can, first, second, third, tolerance, colorant),
-            () -> reference.least(can, first, second, third, tolerance, colorant));
+        return compare(name, () -> desk.least(can, goal[0], goal[1], goal[2], tolerance, colorant),
+            () -> reference.least(can, goal[0], goal[1], goal[2], tolerance, colorant));
     }
 
     private boolean askLabel(String name, int can) {
-        int length = can >= 0 && can < reference.account(3) ? reference.labelLength(can) : 1;
+        int length = isThere(can) ? reference.labelLength(can) : 1;
         boolean isGood = true;
         for (int i = Math.max(-1, length - 20); i <= length && desk.callsLeft() > 0; i++) {
             int index = i;
